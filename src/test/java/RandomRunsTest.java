@@ -12,7 +12,6 @@ public final class RandomRunsTest {
     private final Model model;
     private final Due due;
     private final int run;
-    private final StringBuilder trail = new StringBuilder();
 
     private RandomRunsTest(int run, Due due) {
         this.run = run;
@@ -26,8 +25,7 @@ public final class RandomRunsTest {
 
     public static void main(String[] args) throws Exception {
         Due due = new Due("random runs");
-        int runs = RUNS;
-        for (int run = 0; run < runs; run++) {
+        for (int run = 0; run < RUNS; run++) {
             new RandomRunsTest(run, due).go();
         }
         due.finish();
@@ -50,7 +48,7 @@ public final class RandomRunsTest {
             case 5: return random.nextInt(3) == 0 ? call("shine", off(0, 7)) : 1;
             case 6: return call("lamps", set(), draw(-2, 30));
             case 7: return call("fight", set(), off(0, 2));
-            case 8: return random.nextInt(8) == 0 ? call("suns", set(), draw(-2, 3)) : 1;
+            case 8: return random.nextInt(8) == 0 ? random.nextInt(6) == 0 ? call("suns", set(), draw(-2, 3)) : sunsOf() : 1;
             case 9: return random.nextInt(3) == 0 ? line() : 1;
             case 10: return random.nextInt(3) == 0 ? call("meet", off(0, 9), off(0, 3)) : 1;
             case 11: return call("rough", picture(), x(), y(), off(1, 6), off(1, 6));
@@ -77,16 +75,28 @@ public final class RandomRunsTest {
         }
     }
 
+    /** Mostly one that a lamp of this run's few throws, so that signs agree, fight and need some suns. */
     private int shadow() throws Exception {
-        int low = draw(1, 300);
-        // Often the tip of a lamp that there is, so that some lamps are let.
-        int high = draw(1, 30);
-        int ex = draw(-30, 30);
-        int ey = draw(-30, 30);
         if (random.nextInt(8) == 0) {
             return call("shadow", off(1, 99), off(-99, 99), off(-99, 99), off(1, 300), off(1, 300), off(0, 20));
         }
-        return random.nextInt(3) == 0 ? call("shadow", high, ex, ey, low, draw(low, 300), draw(0, 20)) : 1;
+        Model.Lamp lamp = Model.LAMPS.get((run * 31 + 97 * random.nextInt(1 + run % 4)) % Model.LAMPS.size());
+        int high = draw(1, 60);
+        int low = draw(1, 200);
+        int most = draw(low, Math.min(300, low + random.nextInt(60)));
+        int f = draw(low, most);
+        int ex = -lamp.dx() * high * f / (100 * lamp.h());
+        int ey = -lamp.dy() * high * f / (100 * lamp.h());
+        return call("shadow", high, ex, ey, low, most, draw(0, 4));
+    }
+
+    private int sunsOf() throws Exception {
+        int set = set();
+        int calls = call("suns", set, -1);
+        for (int i = 0; i < 3; i++) {
+            calls += call("suns", set, i);
+        }
+        return calls;
     }
 
     private int line() throws Exception {
@@ -154,7 +164,6 @@ public final class RandomRunsTest {
     private int call(String name, Object... args) throws Exception {
         long got = answer(TwoSuns.class, suns, name, args);
         long want = answer(Model.class, model, name, args);
-        trail.append(name).append(Arrays.toString(args)).append(' ');
         due.due("run " + run + ", " + name + Arrays.toString(args), got, want);
         return 1;
     }
