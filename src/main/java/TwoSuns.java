@@ -18,6 +18,7 @@ public final class TwoSuns {
     private static final int MOST_SHINES = 8;
     private static final int FARTHEST = 99;
     private static final int MOST_FACTOR = 300;
+    private static final int BEYOND_ALL = 1000000;
     private static final int MOST_SIDEWAYS = 20;
     private static final int MOST_SUNS = 3;
     private static final int MOST_LINES = 10;
@@ -427,16 +428,16 @@ public final class TwoSuns {
         return (set & ~(shadows | shines)) == 0;
     }
 
-    /** The least f from low on with |tip + pull f| <= slack; above all others if there is none. */
+    /** The least f from low on with |tip + pull f| <= slack; if there is none, one above greatestNear. */
     private static int leastNear(int tip, int pull, int slack, int low) {
         if (pull == 0) {
-            return Math.abs(tip) <= slack ? low : Integer.MAX_VALUE;
+            return Math.abs(tip) <= slack ? low : BEYOND_ALL;
         }
         int towards = pull < 0 ? -tip : tip;
         return Math.max(low, -Math.floorDiv(slack + towards, Math.abs(pull)));
     }
 
-    /** The greatest f up to high with |tip + pull f| <= slack, if there is one: else one below leastNear. */
+    /** The greatest f up to high with |tip + pull f| <= slack; if there is none, one below leastNear. */
     private static int greatestNear(int tip, int pull, int slack, int high) {
         if (pull == 0) {
             return high;
@@ -466,11 +467,13 @@ public final class TwoSuns {
         }
 
         int get(int x, int y) {
-            return has(x, y) ? cells[y * width + x] : 0;
+            boolean inside = x >= 0 && x < width && y >= 0 && y < height;
+            return inside ? cells[y * width + x] : 0;
         }
 
         void put(int x, int y, int v) {
-            if (has(x, y)) {
+            boolean inside = x >= 0 && x < width && y >= 0 && y < height;
+            if (inside) {
                 cells[y * width + x] = v;
             }
         }
@@ -1101,7 +1104,7 @@ public final class TwoSuns {
 
     /**
      * A text that has been read: its acts in their order, each with its numbers in slots, and the sums of
-     * its paints as code for a stack: 0 .. 999 is put on it, what is above is a name or a deed.
+     * its paints as code for a stack: a number or a name is put on it, a deed takes from it and puts there.
      */
     static final class Program {
         static final int MOST_ACTS = 16;
@@ -1117,18 +1120,21 @@ public final class TwoSuns {
         static final int ROUNDS = 0;
         static final int BODY_END = 1;
 
+        // Code: a number is itself, a name is its place behind the numbers, a deed comes behind the names.
         static final int GREATEST_NUMBER = 999;
-        static final int LIGHT = 1000;
-        static final int X = 1001;
-        static final int Y = 1002;
-        static final int LEFT = 1003;
-        static final int UP = 1004;
-        static final int ROUND = 1005;
-        static final int ADD = 1006;
-        static final int TAKE = 1007;
-        static final int TIMES = 1008;
-        static final int BY = 1009;
-        static final int TURN = 1010;
+        static final int FIRST_NAME = GREATEST_NUMBER + 1;
+        static final int LIGHT = 0;
+        static final int X = 1;
+        static final int Y = 2;
+        static final int LEFT = 3;
+        static final int UP = 4;
+        static final int ROUND = 5;
+        static final int NAMES = 6;
+        static final int ADD = FIRST_NAME + NAMES;
+        static final int TAKE = ADD + 1;
+        static final int TIMES = ADD + 2;
+        static final int BY = ADD + 3;
+        static final int TURN = ADD + 4;
 
         private final int[] kinds = new int[MOST_ACTS];
         private final int[] numbers = new int[MOST_ACTS * SLOTS];
@@ -1162,7 +1168,7 @@ public final class TwoSuns {
         }
 
         int numberOf(int act, int slot) {
-            boolean known = within(act, 0, MOST_ACTS - 1) && within(slot, 0, SLOTS - 1);
+            boolean known = act >= 0 && act < MOST_ACTS && slot >= 0 && slot < SLOTS;
             return known ? numbers[act * SLOTS + slot] : 0;
         }
 
@@ -1174,7 +1180,7 @@ public final class TwoSuns {
         }
 
         int codeAt(int place) {
-            return within(place, 0, MOST_BYTES - 1) ? code[place] : 0;
+            return place >= 0 && place < MOST_BYTES ? code[place] : 0;
         }
     }
 
@@ -1230,33 +1236,34 @@ public final class TwoSuns {
             return false;
         }
 
+        private int byteAt(int at) {
+            return at >= 0 && at < length && at < tape.length ? tape[at] : NONE;
+        }
+
         /** Goes to the next token; past the last one is the end, at the length. */
         private void advance() {
-            while (place < length && isBlank(tape[place])) {
+            while (place < length && isBlank(byteAt(place))) {
                 place++;
             }
             tokenStart = place;
+            int first = byteAt(place);
             if (place >= length) {
                 tokenKind = END;
-            } else if (isLetter(tape[place])) {
+            } else if (isLetter(first)) {
                 tokenKind = WORD;
-                while (place < length && isLetter(tape[place])) {
+                while (place < length && isLetter(byteAt(place))) {
                     place++;
                 }
-            } else if (isDigit(tape[place])) {
+            } else if (isDigit(first)) {
                 tokenKind = NUMBER;
-                takeNumber();
+                tokenValue = 0;
+                while (place < length && isDigit(byteAt(place))) {
+                    // No further up than it takes to be refused, as a number may be of any length.
+                    tokenValue = Math.min(Program.GREATEST_NUMBER + 1, tokenValue * 10 + byteAt(place) - '0');
+                    place++;
+                }
             } else {
-                tokenKind = isSign(tape[place]) ? tape[place] : STRANGE;
-                place++;
-            }
-        }
-
-        /** A number of any length is read, but no further up than it takes to be refused. */
-        private void takeNumber() {
-            tokenValue = 0;
-            while (place < length && isDigit(tape[place])) {
-                tokenValue = Math.min(Program.GREATEST_NUMBER + 1, tokenValue * 10 + tape[place] - '0');
+                tokenKind = isSign(first) ? first : STRANGE;
                 place++;
             }
         }
@@ -1266,11 +1273,11 @@ public final class TwoSuns {
         }
 
         private static boolean isLetter(int b) {
-            return within(b, 'a', 'z') || within(b, 'A', 'Z');
+            return b >= 'a' && b <= 'z' || b >= 'A' && b <= 'Z';
         }
 
         private static boolean isDigit(int b) {
-            return within(b, '0', '9');
+            return b >= '0' && b <= '9';
         }
 
         private static boolean isSign(int b) {
@@ -1283,7 +1290,7 @@ public final class TwoSuns {
                 return false;
             }
             for (int i = 0; i < word.length(); i++) {
-                if (tape[tokenStart + i] != word.charAt(i)) {
+                if (byteAt(tokenStart + i) != word.charAt(i)) {
                     return false;
                 }
             }
@@ -1350,7 +1357,7 @@ public final class TwoSuns {
                 return refuse(CANNOT_STAND);
             }
             advance();
-            return readCorner(act, 5) && pass(';');
+            return readNumber(act, 5, 0, 99) && readNumber(act, 6, 0, 99) && pass(';');
         }
 
         private boolean readPaint(int act, int open) {
@@ -1366,7 +1373,8 @@ public final class TwoSuns {
         }
 
         private boolean readKeep(int act) {
-            return readNumber(act, 0, 2, 50) && readCorner(act, 1) && pass(';');
+            boolean all = readNumber(act, 0, 2, 50) && readNumber(act, 1, 0, 99) && readNumber(act, 2, 0, 99);
+            return all && pass(';');
         }
 
         private boolean readRepeat(int act, int open) {
@@ -1381,11 +1389,8 @@ public final class TwoSuns {
         }
 
         private boolean readField(int act, int slot) {
-            return readCorner(act, slot) && readNumber(act, slot + 2, 1, 99) && readNumber(act, slot + 3, 1, 99);
-        }
-
-        private boolean readCorner(int act, int slot) {
-            return readNumber(act, slot, 0, 99) && readNumber(act, slot + 1, 0, 99);
+            boolean corner = readNumber(act, slot, 0, 99) && readNumber(act, slot + 1, 0, 99);
+            return corner && readNumber(act, slot + 2, 1, 99) && readNumber(act, slot + 3, 1, 99);
         }
 
         private boolean readNumber(int act, int slot, int low, int high) {
@@ -1409,10 +1414,14 @@ public final class TwoSuns {
         }
 
         private boolean passOpening(char sign, int open) {
-            if (tokenKind == sign && open >= MOST_OPEN) {
+            if (tokenKind != sign) {
+                return refuse(CANNOT_STAND);
+            }
+            if (open >= MOST_OPEN) {
                 return refuse(TOO_DEEP);
             }
-            return pass(sign);
+            advance();
+            return true;
         }
 
         private boolean readSum(int open) {
@@ -1448,9 +1457,9 @@ public final class TwoSuns {
         private boolean readOne(int open) {
             switch (tokenKind) {
                 case NUMBER:
-                    return readPlainNumber();
+                    return passPlainNumber();
                 case WORD:
-                    return readName();
+                    return passName(nameOfWord());
                 case '(':
                     return passOpening('(', open) && readSum(open + 1) && pass(')');
                 case '-':
@@ -1468,7 +1477,7 @@ public final class TwoSuns {
             return true;
         }
 
-        private boolean readPlainNumber() {
+        private boolean passPlainNumber() {
             if (tokenValue > Program.GREATEST_NUMBER) {
                 return refuse(WRONG_NUMBER);
             }
@@ -1477,17 +1486,16 @@ public final class TwoSuns {
             return true;
         }
 
-        private boolean readName() {
-            int name = nameCode();
+        private boolean passName(int name) {
             if (name == NONE) {
                 return refuse(CANNOT_STAND);
             }
-            program.addCode(name);
+            program.addCode(Program.FIRST_NAME + name);
             advance();
             return true;
         }
 
-        private int nameCode() {
+        private int nameOfWord() {
             if (isWord("light")) {
                 return Program.LIGHT;
             }
@@ -1516,41 +1524,52 @@ public final class TwoSuns {
 
         private final Picture source;
         private final int[] stack = new int[MOST_STACKED];
-        private int stacked;
+        private final int[] names = new int[Program.NAMES];
         private Program program;
         private Picture target;
         private State state;
-        private int round;
         private int done;
 
         Doer(int w, int h) {
             source = new Picture(w, h);
         }
 
+        /** How many acts were done. */
         int perform(Program what, Picture to, State among) {
-            done = 0;
             if (what == null || to == null || among == null) {
                 return NONE;
             }
             program = what;
             target = to;
             state = among;
+            done = 0;
             performActs(0, program.acts, 0, 0);
             return done;
         }
 
-        private void performActs(int first, int behind, int inRound, int nested) {
+        private void performActs(int first, int behind, int round, int nested) {
             int next = first;
             while (next < behind && done < MOST_DONE) {
-                done++;
                 int act = next;
-                next = act + 1;
-                if (program.kindOf(act) == Program.REPEAT) {
-                    next = Math.max(next, program.numberOf(act, Program.BODY_END));
-                    repeat(act, next, nested);
-                } else {
-                    round = inRound;
-                    performOne(act);
+                next++;
+                done++;
+                switch (program.kindOf(act)) {
+                    case Program.PASTE:
+                        paste(act);
+                        break;
+                    case Program.PAINT:
+                        paint(act, round);
+                        break;
+                    case Program.KEEP:
+                        keep(act);
+                        break;
+                    case Program.FLIP:
+                        flip(act);
+                        break;
+                    default:
+                        next = Math.max(next, program.numberOf(act, Program.BODY_END));
+                        repeat(act, next, nested);
+                        break;
                 }
             }
         }
@@ -1565,59 +1584,42 @@ public final class TwoSuns {
             }
         }
 
-        private void performOne(int act) {
-            switch (program.kindOf(act)) {
-                case Program.PASTE:
-                    paste(act);
-                    break;
-                case Program.PAINT:
-                    paint(act);
-                    break;
-                case Program.KEEP:
-                    keep(act);
-                    break;
-                case Program.FLIP:
-                    flip(act);
-                    break;
-                default:
-                    break;
-            }
-        }
-
-        private int number(int act, int slot) {
-            return program.numberOf(act, slot);
-        }
-
         private void paste(int act) {
             // The picture itself may be the source, and is pasted as it was ahead of this act.
-            source.become(state.picture(number(act, 0)));
-            int fromX = number(act, 1);
-            int fromY = number(act, 2);
-            int w = Math.min(number(act, 3), source.width - fromX);
-            int h = Math.min(number(act, 4), source.height - fromY);
+            source.become(state.picture(program.numberOf(act, 0)));
+            int fromX = program.numberOf(act, 1);
+            int fromY = program.numberOf(act, 2);
+            int w = Math.min(program.numberOf(act, 3), source.width - fromX);
+            int h = Math.min(program.numberOf(act, 4), source.height - fromY);
+            int toX = program.numberOf(act, 5);
+            int toY = program.numberOf(act, 6);
             for (int dy = 0; dy < h; dy++) {
                 for (int dx = 0; dx < w; dx++) {
-                    int v = source.get(fromX + dx, fromY + dy);
-                    target.put(number(act, 5) + dx, number(act, 6) + dy, v);
+                    target.put(toX + dx, toY + dy, source.get(fromX + dx, fromY + dy));
                 }
             }
         }
 
-        private void paint(int act) {
-            int right = Math.min(number(act, 0) + number(act, 2), target.width);
-            int bottom = Math.min(number(act, 1) + number(act, 3), target.height);
-            for (int y = number(act, 1); y < bottom; y++) {
-                for (int x = number(act, 0); x < right; x++) {
-                    int sum = sumAt(act, x, y);
+        private void paint(int act, int round) {
+            int left = program.numberOf(act, 0);
+            int top = program.numberOf(act, 1);
+            int right = Math.min(left + program.numberOf(act, 2), target.width);
+            int bottom = Math.min(top + program.numberOf(act, 3), target.height);
+            int from = program.numberOf(act, Program.SUM_FROM);
+            int behind = program.numberOf(act, Program.SUM_TO);
+            names[Program.ROUND] = round;
+            for (int y = top; y < bottom; y++) {
+                for (int x = left; x < right; x++) {
+                    int sum = sumAt(x, y, from, behind);
                     target.put(x, y, Math.max(0, Math.min(BRIGHTEST, sum)));
                 }
             }
         }
 
         private void keep(int act) {
-            int n = number(act, 0);
-            int left = Math.floorMod(number(act, 1), BLOCK);
-            int top = Math.floorMod(number(act, 2), BLOCK);
+            int n = program.numberOf(act, 0);
+            int left = Math.floorMod(program.numberOf(act, 1), BLOCK);
+            int top = Math.floorMod(program.numberOf(act, 2), BLOCK);
             int right = left + Math.floorDiv(target.width - left, BLOCK) * BLOCK;
             int bottom = top + Math.floorDiv(target.height - top, BLOCK) * BLOCK;
             for (int y = top; y < bottom; y++) {
@@ -1637,10 +1639,11 @@ public final class TwoSuns {
         }
 
         private void flip(int act) {
-            int left = number(act, 0);
-            int right = Math.min(left + number(act, 2), target.width);
-            int bottom = Math.min(number(act, 1) + number(act, 3), target.height);
-            for (int y = number(act, 1); y < bottom; y++) {
+            int left = program.numberOf(act, 0);
+            int top = program.numberOf(act, 1);
+            int right = Math.min(left + program.numberOf(act, 2), target.width);
+            int bottom = Math.min(top + program.numberOf(act, 3), target.height);
+            for (int y = top; y < bottom; y++) {
                 for (int i = 0; i < (right - left) / 2; i++) {
                     int v = target.get(left + i, y);
                     target.put(left + i, y, target.get(right - 1 - i, y));
@@ -1649,44 +1652,33 @@ public final class TwoSuns {
             }
         }
 
-        private int sumAt(int act, int x, int y) {
-            stacked = 0;
-            int behind = number(act, Program.SUM_TO);
-            for (int i = number(act, Program.SUM_FROM); i < behind; i++) {
+        private int sumAt(int x, int y, int from, int behind) {
+            names[Program.LIGHT] = target.get(x, y);
+            names[Program.X] = x;
+            names[Program.Y] = y;
+            names[Program.LEFT] = target.get(x - 1, y);
+            names[Program.UP] = target.get(x, y - 1);
+            int stacked = 0;
+            for (int i = from; i < behind; i++) {
                 int code = program.codeAt(i);
-                if (code >= Program.ADD) {
-                    doDeed(code);
-                } else {
-                    push(code >= Program.LIGHT ? named(code, x, y) : code);
+                if (code < Program.ADD) {
+                    if (stacked < MOST_STACKED) {
+                        stack[stacked] = code < Program.FIRST_NAME ? code : names[code - Program.FIRST_NAME];
+                        stacked++;
+                    }
+                } else if (code == Program.TURN) {
+                    if (stacked >= 1) {
+                        stack[stacked - 1] = -stack[stacked - 1];
+                    }
+                } else if (stacked >= 2) {
+                    stacked--;
+                    stack[stacked - 1] = reckon(code, stack[stacked - 1], stack[stacked]);
                 }
             }
-            return pop();
+            return stack[0];
         }
 
-        private int named(int name, int x, int y) {
-            switch (name) {
-                case Program.LIGHT:
-                    return target.get(x, y);
-                case Program.X:
-                    return x;
-                case Program.Y:
-                    return y;
-                case Program.LEFT:
-                    return target.get(x - 1, y);
-                case Program.UP:
-                    return target.get(x, y - 1);
-                default:
-                    return round;
-            }
-        }
-
-        private void doDeed(int deed) {
-            int second = pop();
-            if (deed == Program.TURN) {
-                push(-second);
-                return;
-            }
-            int first = pop();
+        private static int reckon(int deed, int first, int second) {
             long answer = 0;
             if (deed == Program.ADD) {
                 answer = first + second;
@@ -1697,22 +1689,7 @@ public final class TwoSuns {
             } else if (second != 0) {
                 answer = first / second;
             }
-            push((int) Math.max(-GREATEST, Math.min(GREATEST, answer)));
-        }
-
-        private void push(int v) {
-            if (within(stacked, 0, MOST_STACKED - 1)) {
-                stack[stacked] = v;
-                stacked++;
-            }
-        }
-
-        private int pop() {
-            if (!within(stacked, 1, MOST_STACKED)) {
-                return 0;
-            }
-            stacked--;
-            return stack[stacked];
+            return (int) Math.max(-GREATEST, Math.min(GREATEST, answer));
         }
     }
 

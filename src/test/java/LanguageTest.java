@@ -11,6 +11,7 @@ import com.sun.source.tree.MemberReferenceTree;
 import com.sun.source.tree.MemberSelectTree;
 import com.sun.source.tree.MethodInvocationTree;
 import com.sun.source.tree.MethodTree;
+import com.sun.source.tree.NewClassTree;
 import com.sun.source.tree.PackageTree;
 import com.sun.source.tree.SynchronizedTree;
 import com.sun.source.tree.ThrowTree;
@@ -19,6 +20,7 @@ import com.sun.source.tree.TryTree;
 import com.sun.source.tree.VariableTree;
 import com.sun.source.util.JavacTask;
 import com.sun.source.util.SourcePositions;
+import com.sun.source.util.TreePathScanner;
 import com.sun.source.util.TreeScanner;
 import com.sun.source.util.Trees;
 import java.io.File;
@@ -29,10 +31,16 @@ import java.lang.reflect.Modifier;
 import java.nio.charset.StandardCharsets;
 import java.nio.file.Files;
 import java.util.ArrayList;
+import java.util.HashMap;
 import java.util.HashSet;
+import java.util.LinkedHashMap;
+import java.util.LinkedHashSet;
 import java.util.List;
+import java.util.Map;
 import java.util.Set;
 import java.util.TreeSet;
+import java.util.function.Supplier;
+import javax.lang.model.element.Element;
 import javax.lang.model.element.Name;
 import javax.tools.JavaCompiler;
 import javax.tools.StandardJavaFileManager;
@@ -54,6 +62,7 @@ public final class LanguageTest {
     private static final int MOST_FIELDS = 20;
     private static final int MOST_LINES = 60;
     private static final int MOST_PARAMETERS = 7;
+    private static final int MOST_DEEP = 8;
 
     private static final Due DUE = new Due("language");
 
@@ -129,9 +138,92 @@ public final class LanguageTest {
         JavaCompiler compiler = ToolProvider.getSystemJavaCompiler();
         try (StandardJavaFileManager files = compiler.getStandardFileManager(null, null, null)) {
             JavacTask task = (JavacTask) compiler.getTask(null, files, null, null, null, files.getJavaFileObjects(source));
-            for (CompilationUnitTree unit : task.parse()) {
+            Iterable<? extends CompilationUnitTree> units = task.parse();
+            task.analyze();
+            Calls calls = new Calls(Trees.instance(task));
+            for (CompilationUnitTree unit : units) {
                 new Rules(unit, Trees.instance(task).getSourcePositions()).scan(unit, null);
+                calls.scan(unit, null);
             }
+            calls.judge();
+        }
+    }
+
+    /** Which method of the source calls which, and how deep that goes where it is no recursion. */
+    private static final class Calls extends TreePathScanner<Void, Void> {
+        private final Trees trees;
+        private final Map<Element, Set<Element>> calls = new LinkedHashMap<>();
+        private final Map<Element, Set<Element>> reached = new HashMap<>();
+        private Element inside;
+
+        Calls(Trees trees) {
+            this.trees = trees;
+        }
+
+        @Override
+        public Void visitMethod(MethodTree t, Void v) {
+            inside = trees.getElement(getCurrentPath());
+            calls.putIfAbsent(inside, new LinkedHashSet<>());
+            return super.visitMethod(t, v);
+        }
+
+        @Override
+        public Void visitMethodInvocation(MethodInvocationTree t, Void v) {
+            return called(trees.getElement(getCurrentPath()), () -> super.visitMethodInvocation(t, v));
+        }
+
+        @Override
+        public Void visitNewClass(NewClassTree t, Void v) {
+            return called(trees.getElement(getCurrentPath()), () -> super.visitNewClass(t, v));
+        }
+
+        private Void called(Element method, Supplier<Void> further) {
+            if (inside != null && method != null) {
+                calls.get(inside).add(method);
+            }
+            return further.get();
+        }
+
+        void judge() {
+            for (Element method : calls.keySet()) {
+                int deep = deepFrom(method);
+                DUE.holds(method + " goes " + deep + " calls deep", deep <= MOST_DEEP);
+            }
+        }
+
+        private Set<Element> reachedFrom(Element method) {
+            Set<Element> all = reached.get(method);
+            if (all == null) {
+                all = new LinkedHashSet<>();
+                reached.put(method, all);
+                List<Element> left = new ArrayList<>(calls.getOrDefault(method, Set.of()));
+                while (!left.isEmpty()) {
+                    Element next = left.remove(left.size() - 1);
+                    if (calls.containsKey(next) && all.add(next)) {
+                        left.addAll(calls.get(next));
+                    }
+                }
+            }
+            return all;
+        }
+
+        /** Methods that call one another in a ring count as one. */
+        private int deepFrom(Element method) {
+            Set<Element> ring = new LinkedHashSet<>(Set.of(method));
+            for (Element other : reachedFrom(method)) {
+                if (reachedFrom(other).contains(method)) {
+                    ring.add(other);
+                }
+            }
+            int deepest = 0;
+            for (Element member : ring) {
+                for (Element next : calls.get(member)) {
+                    if (calls.containsKey(next) && !ring.contains(next)) {
+                        deepest = Math.max(deepest, deepFrom(next));
+                    }
+                }
+            }
+            return deepest + 1;
         }
     }
 
