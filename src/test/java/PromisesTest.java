@@ -290,6 +290,13 @@ public final class PromisesTest {
             due.due("line " + i, s.line(0, 0, i, 99), i);
         }
         due.due("an eleventh", s.line(0, 0, 1, 1), -1);
+        answersOfMeet(s, 0, 0, 0, 10, 0);
+        TwoSuns t = new TwoSuns(4, 4);
+        for (int i = 0; i < 9; i++) {
+            t.line(0, 0, i, 99);
+        }
+        t.line(50, 60, 60, 60);
+        answersOfMeet(t, 0, 0, 0, 9, 1 << 9);
         due.due("ten", s.about(4), 10);
     }
 
@@ -382,6 +389,12 @@ public final class PromisesTest {
         }
         due.due("the fifth of nine", nine.grain(0, 2, 1), 20);
         due.due("the last block", nine.grain(0, 4, 108), 1);
+        TwoSuns three = new TwoSuns(12, 4);
+        // A light of 1 in a corner makes a block 2 rough, at an edge 3.
+        three.light(0, 0, 0, 1);
+        three.light(0, 5, 0, 1);
+        three.light(0, 9, 0, 1);
+        due.due("2, 3, 3", three.grain(0, 2, 1), 3);
     }
 
     private void squares() {
@@ -605,6 +618,12 @@ public final class PromisesTest {
         faulty("paint 0 0 1 1 1 1000;", 1, 16);
         faulty("paint 0 0 1 1 x y;", 1, 16);
         faulty("paint 0 0 1 1 xy;", 1, 14);
+        for (String letter : new String[] {"a", "z", "A", "Z", "m", "M"}) {
+            faulty("paint 0 0 1 1 x" + letter + ";", 1, 14);
+        }
+        for (String strange : new String[] {"@", "[", "`", "|", "}", ",", ".", ":", "\"", "'", "\u007f", "\u00ff", "_"}) {
+            faulty("paint 0 0 1 1 x" + strange + ";", 1, 15);
+        }
         faulty("paint 0 0 1 1 -;", 1, 15);
         faulty("paint 0 0 1 1 to;", 1, 14);
         faulty("paint 0 0 1 1 {1};", 1, 14);
@@ -808,6 +827,11 @@ public final class PromisesTest {
         due.due("and each repeat in it", actsOf("repeat 3{repeat 2{keep 2 0 0;}}"), 1 + 3 + 6);
         due.due("acts beyond the picture count", actsOf("paint 50 50 1 1 1;"), 1);
         due.due("it ends at 300", actsOf("repeat 9{repeat 9{repeat 9{keep 2 0 0;}}}"), 300);
+        due.due("eight repeats around one another", actsOf("repeat 1{".repeat(8) + "keep 2 0 0;" + "}".repeat(8)), 9);
+        TwoSuns sixteen = new TwoSuns(4, 4);
+        Due.read(sixteen, "keep 2 0 0;".repeat(15) + "paint 3 1 1 1 7;");
+        due.due("sixteen acts", sixteen.act(0, 0), 16);
+        due.due("the sixteenth is done", sixteen.at(0, 3, 1), 7);
         due.due("with repeats alone", actsOf("repeat 9{".repeat(8) + "}".repeat(8)), 300);
         // 1 + 9 (1 + 9 * 3) = 253, then 1 + 46 paints.
         String many = "repeat 9{repeat 9{keep 2 0 0;keep 2 0 0;keep 2 0 0;}}repeat 9{repeat 9{paint 0 0 1 1 light+1;}}";
@@ -926,6 +950,12 @@ public final class PromisesTest {
             }
         }
         due.due("large ones", large.odds(2, 0, 63), 250);
+        TwoSuns small = new TwoSuns(4, 4);
+        small.maker(1, 1);
+        for (int habit = 0; habit < 6; habit++) {
+            small.habit(1, habit, 1);
+        }
+        due.due("the least there is", small.odds(1, 0, 63), 1000);
     }
 
     private void say() {
@@ -1000,6 +1030,11 @@ public final class PromisesTest {
         due.due("the second shadow is not told", s.lamps(2, -1), -1);
         due.due("nor the second shine", s.lamps(2 << 12, -1), -1);
         due.due("nor the second text", s.act(1, 0), -1);
+        s.copy(0, 3);
+        s.light(3, 0, 0, 22);
+        due.due("nor is it told in a story", s.story(0, 3, -1), -1);
+        s.light(3, 0, 0, 11);
+        due.due("but the first one is", s.story(0, 3, -1), 1);
         due.due("the first one is the same", s.lamps(1 | 1 << 12, 0), 10506);
         due.due("line 1 anew", s.line(0, 9, 1, 9), 1);
         due.due("it is not the old one", s.meet(0, 2), 1);
