@@ -297,6 +297,13 @@ public final class PromisesTest {
         }
         t.line(50, 60, 60, 60);
         answersOfMeet(t, 0, 0, 0, 9, 1 << 9);
+        TwoSuns u = new TwoSuns(4, 4);
+        for (int i = 0; i < 9; i++) {
+            u.line(5, 0, 5, 9);
+        }
+        u.line(0, -38, 10, -38);
+        // By slack 1 the upright ones reach x 4 .. 6, the level one y -39 .. -37.
+        answersOfMeet(u, 1, 4, -39, 10, 0);
         due.due("ten", s.about(4), 10);
     }
 
