@@ -181,10 +181,13 @@ public final class BoundsOfPicturesTest {
         int[][] cases = {{12, 0, 8}, {12, 3, 8}, {12, 4, 8}, {12, 5, 7}, {12, 11, 1}, {9, 0, 8}, {9, 1, 8}, {8, 0, 8}, {8, 1, 7}, {7, 0, 7}, {4, 0, 4}, {4, 3, 1}};
         for (int[] c : cases) {
             TwoSuns s = new TwoSuns(c[0], 4);
+            for (int x = 0; x < c[0]; x++) {
+                s.light(0, x, 0, 90 + x % 8);
+            }
             b.due("of " + c[0] + " from " + c[1], s.row(0, c[1], 0, 8877665544332211L), c[2]);
             for (int x = 0; x < c[0]; x++) {
                 boolean put = x >= c[1] && x < c[1] + c[2];
-                b.due("cell " + x, s.at(0, x, 0), put ? 11 * (x - c[1] + 1) : 0);
+                b.due("cell " + x, s.at(0, x, 0), put ? 11 * (x - c[1] + 1) : 90 + x % 8);
             }
         }
     }

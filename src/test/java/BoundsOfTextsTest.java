@@ -195,6 +195,17 @@ public final class BoundsOfTextsTest {
             b.due("it is none", s.act(0, 0), -1);
             b.due("nothing was painted", s.at(0, 0, 0), 0);
         }
+        // Nothing is left of a longer sum behind a shorter one.
+        Due.read(s, PAINT + "-5+7*2;");
+        s.back();
+        for (String shorter : new String[] {"8", "3+5", "9-1", "2*4", "8/1", "0+8", "-8/-1"}) {
+            Due.read(s, PAINT + "-5--5--5--5;");
+            s.back();
+            b.due("a shorter one", Due.read(s, PAINT + shorter + ";"), 0);
+            s.act(0, 0);
+            b.due(shorter, s.at(0, 0, 0), 8);
+            s.back();
+        }
     }
 
     private void emptyText() {
