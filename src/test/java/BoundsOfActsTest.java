@@ -110,6 +110,18 @@ public final class BoundsOfActsTest {
         b.due("of one", actsOf(KEEP), 1);
         b.due("of sixteen", actsOf(KEEP.repeat(16)), 16);
         b.due("of one beyond the picture", actsOf("paint 99 99 1 1 1;"), 1);
+        // The sixteenth is done with all of its numbers, whichever act it is.
+        String[] last = {"paint 3 1 1 1 7;", "paste 1 2 0 1 1 to 3 1;", "flip 2 1 2 1;", "keep 10 0 0;", "repeat 9{}"};
+        int[] lights = {7, 8, 6, 10, 9};
+        for (int i = 0; i < last.length; i++) {
+            TwoSuns s = new TwoSuns(4, 4);
+            s.light(0, 3, 1, 9);
+            s.light(0, 2, 1, 6);
+            s.light(1, 2, 0, 8);
+            Due.read(s, "flip 0 0 1 1;".repeat(15) + last[i]);
+            b.due("sixteen acts, the last " + last[i], s.act(0, 0), 16);
+            b.due(last[i] + " is done", s.at(0, 3, 1), lights[i]);
+        }
         b.due("of a paste that puts nothing", actsOf("paste 4 99 99 1 1 to 0 0;"), 1);
     }
 

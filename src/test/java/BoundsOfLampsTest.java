@@ -54,6 +54,7 @@ public final class BoundsOfLampsTest {
         sunsAsked();
         threeAtMost();
         firstSuns();
+        sunsBehindAWayBack();
         signThatLetsNone();
     }
 
@@ -479,6 +480,13 @@ public final class BoundsOfLampsTest {
         b.due("of a sign that lets none the first", s.fight(1, 0), Bounds.lamp(-5, -5, 1));
         b.due("let by none of it", s.fight(1, 1), 0);
         b.due("it is left out", s.fight(1, 2), 1);
+        // The first lamp may be the one that most let, too.
+        s.shadow(1, 0, 0, 1, 1, 20);
+        b.due("the first of all", s.fight(2, 0), Bounds.lamp(-5, -5, 1));
+        b.due("one lets it", s.fight(2, 1), 1);
+        b.due("none is left out", s.fight(2, 2), 0);
+        b.due("one of two lets it", s.fight(3, 1), 1);
+        b.due("the other is left out", s.fight(3, 2), 1);
     }
 
     private void fightOfAll() {
@@ -584,6 +592,31 @@ public final class BoundsOfLampsTest {
         b.due("how many", t.suns(1 | FIRST_SHINE, -1), 2);
         b.due("the shine's", t.suns(1 | FIRST_SHINE, 0), Bounds.lamp(-5, -5, 1));
         b.due("the shadow's", t.suns(1 | FIRST_SHINE, 1), Bounds.lamp(1, 0, 1));
+    }
+
+    private void sunsBehindAWayBack() {
+        b.sentence("the fewest LAMPS (3 at most) so that each SIGN of a set LETS one of them");
+        TwoSuns s = new TwoSuns(4, 4);
+        s.shadow(10, 0, 10, 100, 100, 0);
+        s.shadow(10, 10, 0, 100, 100, 0);
+        s.shadow(10, 0, -10, 100, 100, 0);
+        s.shadow(10, 0, -10, 100, 100, 0);
+        s.shadow(10, -10, 0, 100, 100, 0);
+        b.due("four kinds are too many", s.suns(31, -1), -1);
+        b.due("three", s.suns(15, -1), 3);
+        s.back();
+        s.shadow(10, 0, 10, 100, 100, 0);
+        s.shadow(10, 0, 10, 100, 100, 0);
+        s.shadow(10, 10, 0, 100, 100, 0);
+        s.shadow(10, -10, 0, 100, 100, 0);
+        // Shadows 2 and 3 were alike; now they are not, so one sun for both is gone.
+        b.due("three again", s.suns(15, -1), 3);
+        int[] three = {Bounds.lamp(0, -1, 1), Bounds.lamp(-1, 0, 1), Bounds.lamp(1, 0, 1)};
+        for (int i = 0; i < 3; i++) {
+            b.due("sun " + i, s.suns(15, i), three[i]);
+        }
+        b.due("two for those that were alike", s.suns(12, -1), 2);
+        b.due("one for those that are", s.suns(3, -1), 1);
     }
 
     private void signThatLetsNone() {
@@ -771,5 +804,19 @@ public final class BoundsOfLampsTest {
             far.line(90, i, 90, 50);
         }
         meets(far, 0, -40, -40, 0, 1023);
+        // Each line of the ten, the first and the last too, reaches by slack.
+        for (int odd = 0; odd < 10; odd++) {
+            TwoSuns u = new TwoSuns(4, 4);
+            for (int i = 0; i < 10; i++) {
+                if (i == odd) {
+                    u.line(0, -38, 10, -38);
+                } else {
+                    u.line(5, 0, 5, 9);
+                }
+            }
+            // The upright ones reach x 4 .. 6, the level one y -39 .. -37.
+            meets(u, 1, 4, -39, 10, 0);
+            meets(u, 0, 5, -38, 10, 0);
+        }
     }
 }

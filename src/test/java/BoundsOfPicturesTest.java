@@ -372,6 +372,17 @@ public final class BoundsOfPicturesTest {
                 b.due("block " + i + " of a light in " + block, s.grain(0, 2, 100 + i), Bounds.truth(i == block));
             }
         }
+        // One block across, or one down.
+        for (int block = 0; block < 3; block++) {
+            TwoSuns down = new TwoSuns(7, 12);
+            TwoSuns beside = new TwoSuns(12, 7);
+            down.light(0, 3, block * 4 + 3, 5);
+            beside.light(0, block * 4 + 3, 3, 5);
+            for (int i = 0; i < 3; i++) {
+                b.due("block " + i + " down, of a light in " + block, down.grain(0, 2, 100 + i), Bounds.truth(i == block));
+                b.due("block " + i + " across, of a light in " + block, beside.grain(0, 2, 100 + i), Bounds.truth(i == block));
+            }
+        }
     }
 
     private void lowerMedian() {
